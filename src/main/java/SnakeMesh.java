@@ -45,27 +45,33 @@ public final class SnakeMesh {
     // ---- what is told in
 
     public int mesh(int w, int h) {
-        return callOrder('w', w, h, 0);
+        before.copyFrom(now);
+        return settle(makeMesh(w, h));
     }
 
     public int message(int x, int y, int l) {
-        return callOrder('m', x, y, l);
+        before.copyFrom(now);
+        return settle(addMessage(x, y, l));
     }
 
     public int goal(int i, int x, int y) {
-        return callOrder('g', i, x, y);
+        before.copyFrom(now);
+        return settle(turnGoal(i, x, y));
     }
 
     public int turns(int x, int y, int d) {
-        return callOrder('t', x, y, d);
+        before.copyFrom(now);
+        return settle(turnChannel(x, y, d));
     }
 
     public int steps(int n) {
-        return callOrder('k', n, 0, 0);
+        before.copyFrom(now);
+        return settle(goSteps(n));
     }
 
     public int again() {
-        return callOrder('a', 0, 0, 0);
+        before.copyFrom(now);
+        return settle(startAgain());
     }
 
     // ---- the mesh
@@ -230,9 +236,8 @@ public final class SnakeMesh {
         return why;
     }
 
-    private int callOrder(int letter, int a, int b, int c) {
-        before.copyFrom(now);
-        int answer = perform(letter, a, b, c);
+    /** Behind a call told S: its refusal is counted, or the state before it is kept. */
+    private int settle(int answer) {
         if (answer < 0) {
             return refuse(answer);
         }
@@ -240,7 +245,7 @@ public final class SnakeMesh {
         return answer;
     }
 
-    /** Counts no refusal and leaves no state, since does() wants neither for each of its orders. */
+    /** An order of the text: no refusal of it counts, and it leaves no state of its own. */
     private int perform(int letter, int a, int b, int c) {
         switch (letter) {
             case 'w':
@@ -648,11 +653,11 @@ public final class SnakeMesh {
         }
 
         int tell(int label) {
-            return 10 * xs[label] + ys[label];
+            return hasLabel(label) ? 10 * xs[label] + ys[label] : NONE;
         }
 
         int endOf(int channel) {
-            return ends[channel];
+            return channel >= 0 && channel < MOST_CHANNELS ? ends[channel] : NONE;
         }
 
         /** NONE: no such channel. */
@@ -664,12 +669,12 @@ public final class SnakeMesh {
             return ends[channel] == NONE ? NONE : channel;
         }
 
-        /**
-         * The channel to NEXT. The neighbour along the line always lies within reach of the goal,
-         * so there is one, and it never leads away from the goal's side.
-         */
+        /** The channel to NEXT; NONE only from no place, since the next label on the line always fits. */
         int channelTowards(int from, int to) {
-            int best = from * DIRECTIONS;
+            if (from < 0 || from >= MOST_PLACES) {
+                return NONE;
+            }
+            int best = NONE;
             int bestEnd = NONE;
             for (int channel = from * DIRECTIONS; channel < from * DIRECTIONS + DIRECTIONS; channel++) {
                 int end = ends[channel];
@@ -691,7 +696,7 @@ public final class SnakeMesh {
             int at = from;
             int taken = 0;
             while (at != to && taken < MOST_PLACES) {
-                at = ends[channelTowards(at, to)];
+                at = endOf(channelTowards(at, to));
                 taken++;
             }
             return taken;
@@ -721,6 +726,9 @@ public final class SnakeMesh {
             // Labels only rise or only fall on a way, so it is shorter than the places are many.
             while (n + 1 < MOST_PLACES && places[worm][n] != goal) {
                 int channel = grid.channelTowards(places[worm][n], goal);
+                if (channel == NONE) {
+                    break;
+                }
                 channels[worm][n] = channel;
                 places[worm][n + 1] = grid.endOf(channel);
                 n++;
