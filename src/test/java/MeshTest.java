@@ -72,11 +72,11 @@ public final class MeshTest {
     private static void nextEverywhere() {
         for (int w = 2; w <= 6; w++) {
             for (int h = 2; h <= 6; h++) {
-                SnakeMesh x = sized(w, h);
                 for (int u = 0; u < w * h; u++) {
                     for (int v = 0; v < w * h; v++) {
                         if (u != v) {
-                            nextFits(x, u, v);
+                            // A new object each time: none is promised for more than 512 calls.
+                            nextFits(sized(w, h), u, v);
                         }
                     }
                 }

@@ -128,13 +128,13 @@ public final class TextsTest {
     }
 
     private static void doesLongest() {
+        DUE.is("21: 60 orders", does(new SnakeMesh(), "a;".repeat(60)), 60);
+        DUE.is("21: the last of 120 bytes", does(new SnakeMesh(), "a;".repeat(59) + "a"), -129);
+        DUE.is("21: the last of 40 orders", does(new SnakeMesh(), "k1;".repeat(39) + "k0;"), -1039);
+        DUE.is("21: 120 blanks", does(new SnakeMesh(), " ".repeat(120)), -130);
         SnakeMesh x = new SnakeMesh();
-        DUE.is("21: 60 orders", does(x, "a;".repeat(60)), 60);
-        DUE.is("21: the last of 120 bytes", does(x, "a;".repeat(59) + "a"), -129);
-        DUE.is("21: the last of 60 orders", does(x, "k1;".repeat(39) + "k0;"), -1039);
         DUE.is("21: 4800 steps", does(x, "k200;".repeat(24)), 24);
         DUE.is("21: STEPS", x.count(3), 4800);
-        DUE.is("21: 120 blanks", does(x, " ".repeat(120)), -130);
     }
 
     private static void back() {
