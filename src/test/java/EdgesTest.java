@@ -4,7 +4,7 @@ public final class EdgesTest {
         Due due = new Due("EdgesTest");
         Edge edge = new Edge(due);
         TermsEdges.run(edge);
-        TextEdges.run(edge);
+        TheTextEdges.run(edge);
         ToldInEdges.run(edge);
         MeshEdges.run(edge);
         WormsEdges.run(edge);

@@ -96,6 +96,7 @@ final class MeshEdges {
         edge.tells("Promise 12, side 1 of it: 1", MeshEdges::twoSteps, x -> x.holds(1, 1, 3), 1);
         edge.tells("Promise 12, the last WORM: 9", MeshEdges::lastWorm, x -> x.holds(3, 3, 3), 9);
         edge.tells("Promise 12, the last but one: 8", MeshEdges::lastWorm, x -> x.holds(3, 3, 2), 8);
+        edge.tells("Promise 12, NONE: the most MESSAGES, none HOLDS it", Scenes::full, x -> x.holds(4, 2, 3), -1);
         edge.tells("Promise 12, one that is DOWN and HELD", MeshEdges::downAndHeld, x -> x.holds(1, 1, 1), 0);
         edge.tells("Promise 12, one that is DOWN, waited for", Scenes::busy, x -> x.holds(2, 0, 0), -1);
         edge.tells("Promise 12, NONE: behind again()", MeshEdges::movedAgain, x -> x.holds(1, 1, 1), -1);

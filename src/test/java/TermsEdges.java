@@ -17,6 +17,8 @@ final class TermsEdges {
         holdsBelowLength();
         holdsFromLengthOn();
         headAndDone();
+        lengthOfEach();
+        takesNoMoreAtItsEnd();
         arrived();
         waitsForDown();
         waitsForAnother();
@@ -206,6 +208,64 @@ final class TermsEdges {
             edge.is("Terms, DONE: LENGTH " + l + ", no STEP moves it", then.steps(200) + then.worm(0, 0, 2), 5 + l);
             edge.is("Terms, DONE: LENGTH " + l + ", no STEP lets it wait", then.worm(0, 0, 5), 0);
         }
+    }
+
+    /** Five messages of lengths 1 to 5, each with three channels of its own in a row of its own. */
+    private static SnakeMesh fiveRows() {
+        SnakeMesh x = Scenes.sized(4, 5);
+        for (int y = 0; y < 5; y++) {
+            x.message(0, y, y + 1);
+            x.goal(y, 3, y);
+        }
+        return x;
+    }
+
+    /** Sides 0 in even rows, 1 in odd ones, since labels fall there from left to right. */
+    private static int[] ofAll(SnakeMesh x, int what) {
+        int[] all = new int[5];
+        for (int i = 0; i < 5; i++) {
+            all[i] = x.worm(i, i & 1, what);
+        }
+        return all;
+    }
+
+    private static void lengthOfEach() {
+        SnakeMesh x = fiveRows();
+        x.steps(3);
+        edge.are("Terms, LENGTH: each HOLDS by its own, m 3", ofAll(x, 7), 1, 2, 3, 3, 3);
+        x.steps(1);
+        edge.are("Terms, LENGTH: each is DONE by its own, m 4", ofAll(x, 6), 1, 0, 0, 0, 0);
+        edge.are("Terms, LENGTH: each HOLDS by its own, m 4", ofAll(x, 7), 0, 1, 2, 3, 3);
+        x.steps(3);
+        edge.are("Terms, LENGTH: each is DONE by its own, m 7", ofAll(x, 6), 1, 1, 1, 1, 0);
+        edge.are("Terms, LENGTH: each HOLDS by its own, m 7", ofAll(x, 7), 0, 0, 0, 0, 1);
+        edge.are("Terms, LENGTH: MOVES of each, DONE or not", ofAll(x, 2), 4, 5, 6, 7, 7);
+        int[] when = new int[5];
+        SnakeMesh y = fiveRows();
+        for (int i = 0; i < 5; i++) {
+            when[i] = y.when(i);
+        }
+        edge.are("Terms, LENGTH: when each is DONE", when, 4, 5, 6, 7, 8);
+    }
+
+    /** While one comes in at its goal, the channel that another just gave up is free for a third. */
+    private static void takesNoMoreAtItsEnd() {
+        SnakeMesh x = Scenes.sized(6, 2);
+        int[][] ends = {{0, 1, 1}, {2, 3, 9}, {0, 1, 1}};
+        for (int i = 0; i < 3; i++) {
+            x.message(ends[i][0], 0, ends[i][2]);
+            x.goal(i, ends[i][1], 0);
+        }
+        x.steps(2);
+        edge.is("Terms, HOLDS: one whose m is n takes no CHANNEL more", x.worm(2, 0, 2), 1);
+        edge.is("Terms, HOLDS: nor is one more HELD", x.count(5), 2);
+        SnakeMesh shorter = Scenes.row(1);
+        shorter.goal(0, 1, 0);
+        shorter.goal(0, 5, 0);
+        shorter.message(0, 0, 1);
+        shorter.goal(1, 5, 0);
+        shorter.steps(3);
+        edge.is("Terms, HOLDS: nor one that its WAY had before a GOAL went", shorter.worm(1, 0, 2), 2);
     }
 
     private static void arrived() {

@@ -128,6 +128,7 @@ final class TextsEdges {
         edge.are("Promise 22, of 5, then none", can, 4, 3, 2, 1, 0, -3);
         edge.are("Promise 22, what the oldest STATE holds", Edge.counts(y), 5, 3, 1, 0, 0, 0, 0, 0);
         edge.is("Promise 22, and its MESSAGE", y.of(0, 3), 2);
+        promise22Runs();
         SnakeMesh grown = Scenes.sized(2, 2);
         grown.mesh(6, 6);
         grown.back();
@@ -138,6 +139,38 @@ final class TextsEdges {
         lessened.back();
         edge.is("Promise 22, the WAYS of a greater MESH are there again", lessened.way(0, 0, 35), 5);
         edge.is("Promise 22, and how long they take", lessened.when(0), 44);
+    }
+
+    /** Behind back() the worms go on from where they were, and stand in each other's way as they did. */
+    private static void promise22Runs() {
+        SnakeMesh twin = Scenes.row(4);
+        twin.message(0, 0, 4);
+        twin.goal(1, 5, 0);
+        twin.steps(2);
+        SnakeMesh x = Scenes.row(4);
+        x.message(0, 0, 4);
+        x.goal(1, 5, 0);
+        x.steps(2);
+        x.steps(100);
+        x.back();
+        x.steps(1);
+        edge.are("Promise 22, what was HELD then is waited for again", Edge.worm(x, 1, 0), 1, 5, 0, 0, 0, 3, 0, 0, 0);
+        x.back();
+        edge.is("Promise 22, to and fro, all is the same", x.digest() - twin.digest(), (x.told(4) - twin.told(4)) * Edge.weight(x, 4));
+        SnakeMesh free = Scenes.row(4);
+        free.steps(2);
+        free.back();
+        free.message(0, 0, 1);
+        free.goal(1, 1, 0);
+        free.turns(0, 0, 1);
+        free.goal(0, 5, 0);
+        free.steps(1);
+        edge.is("Promise 22, what is not HELD any more is waited for by none", free.worm(1, 0, 2), 1);
+        SnakeMesh full = Scenes.full();
+        full.turns(0, 0, 1);
+        edge.is("Promise 22, with the most MESSAGES", full.back(), 4);
+        edge.are("Promise 22, the most MESSAGES stay", Edge.counts(full), 5, 3, 5, 3, 1, 5, 1, 3);
+        edge.is("Promise 22, the first of them has its WAY", full.way(0, 0, 4), 42);
     }
 
     private static SnakeMesh allBack() {

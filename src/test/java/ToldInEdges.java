@@ -14,6 +14,7 @@ final class ToldInEdges {
         promise4Moves();
         promise5();
         promise6();
+        promise6Full();
         promise7();
     }
 
@@ -40,8 +41,25 @@ final class ToldInEdges {
         edge.is("Promise 2, THE TEXT stays", x.told(3), 120);
         x.mesh(2, 6);
         edge.is("Promise 2, W times H as it was just before", x.mesh(6, 6), 12);
+        promise2OneSide();
         x.message(0, 0, 1);
         edge.are("Promise 2, a message in it has nothing of one before", Edge.worm(x, 0, 0), 0, 0, 0, 0, 0, 0, 1, 0, 0);
+    }
+
+    /** The labels, and what is there, are those of the new mesh, if W or H alone became other. */
+    private static void promise2OneSide() {
+        int[][] sizes = {{4, 2, 7, 1}, {4, 6, 23, 5}, {2, 4, 7, 3}, {6, 4, 23, 3}};
+        for (int[] n : sizes) {
+            String size = "from 4 by 4 to " + n[0] + " by " + n[1];
+            Edge.Made made = () -> Scenes.sized(n[0], n[1]);
+            edge.tells("Promise 2, the last LABEL, " + size, made, x -> x.place(n[2]), n[3]);
+            edge.refused("Promise 2, no LABEL behind it, " + size, made, x -> x.place(n[2] + 1), SnakeMesh.BAD);
+            edge.tells("Promise 2, the end of row 1, " + size, made, x -> x.label(0, 1), 2 * n[0] - 1);
+            edge.leaves("Promise 2, the last CHANNEL to the right, " + size, made, x -> x.turns(n[0] - 2, n[1] - 1, 0), 0);
+            edge.refused("Promise 2, nothing to the right, " + size, made, x -> x.turns(n[0] - 1, n[1] - 1, 0), SnakeMesh.BAD);
+            edge.leaves("Promise 2, the last CHANNEL below, " + size, made, x -> x.turns(n[0] - 1, n[1] - 2, 1), 0);
+            edge.refused("Promise 2, nothing below, " + size, made, x -> x.turns(n[0] - 1, n[1] - 1, 1), SnakeMesh.BAD);
+        }
     }
 
     private static void promise3() {
@@ -198,6 +216,27 @@ final class ToldInEdges {
         }
         edge.are("Promise 6, 200 STEPS one by one are the same, message 1", Edge.worm(one, 1, 0), 1, 4, 2, 20, 0, 198, 0, 2, 1);
         edge.are("Promise 6, 200 STEPS one by one are the same, message 0", Edge.worm(one, 0, 0), Edge.worm(x, 0, 0));
+    }
+
+    /** Five that stand one behind the other for ever, the first at a channel that is down. */
+    private static SnakeMesh fiveStuck() {
+        SnakeMesh x = Scenes.sized(6, 2);
+        for (int i = 0; i < 5; i++) {
+            x.message(0, 0, 1);
+            x.goal(i, 5, 0);
+        }
+        x.turns(2, 0, 0);
+        return x;
+    }
+
+    private static void promise6Full() {
+        edge.leaves("Promise 6, the most MESSAGES, all stuck", ToldInEdges::fiveStuck, x -> x.steps(200), 5);
+        SnakeMesh x = fiveStuck();
+        x.steps(200);
+        edge.are("Promise 6, the most MESSAGES, the first WAITED", Edge.worm(x, 0, 0), 1, 5, 2, 20, 0, 198, 0, 1, 1);
+        edge.are("Promise 6, the most MESSAGES, the second WAITED", Edge.worm(x, 1, 0), 1, 5, 1, 10, 0, 199, 0, 1, 1);
+        edge.are("Promise 6, the most MESSAGES, the last WAITED", Edge.worm(x, 4, 0), 1, 5, 0, 0, 0, 200, 0, 0, 1);
+        edge.is("Promise 6, the most MESSAGES, all WAITED", x.count(6), 198 + 199 + 3 * 200);
     }
 
     private static int afterSteps(SnakeMesh x, int n) {

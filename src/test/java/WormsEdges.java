@@ -14,6 +14,7 @@ final class WormsEdges {
         promise16();
         promise17();
         promise17Never();
+        promise17RunsNothing();
         promise18();
         promise18Done();
     }
@@ -164,6 +165,25 @@ final class WormsEdges {
         edge.is("Promise 17, NONE: 400 STEPS later, too", x.when(0), -1);
         x.turns(2, 0, 0);
         edge.is("Promise 17, UP again: as far as it has to go yet", x.when(0), 4);
+    }
+
+    /** Two behind one another, and two steps done: the second one is to wait once more for the first. */
+    private static SnakeMesh behindEachOther() {
+        SnakeMesh x = Scenes.row(4);
+        x.message(0, 0, 4);
+        x.goal(1, 5, 0);
+        x.steps(2);
+        return x;
+    }
+
+    private static void promise17RunsNothing() {
+        SnakeMesh twin = behindEachOther();
+        twin.steps(1);
+        SnakeMesh x = behindEachOther();
+        x.when(-1);
+        x.steps(1);
+        edge.are("Promise 17, a STEP behind it is as if it had not been asked", Edge.worm(x, 1, 0), 1, 5, 0, 0, 0, 3, 0, 0, 0);
+        edge.is("Promise 17, all is as if it had not been asked", x.digest(), twin.digest());
     }
 
     private static SnakeMesh rowWithDown(int k) {

@@ -1,9 +1,9 @@
 /** THE TEXT, as the section Terms tells it: how many bytes, which may stand where, what ends too early. */
-final class TextEdges {
+final class TheTextEdges {
     private static final String[] ORDERS = {"w3 4;", "m1 2 3;", "g0 3 1;", "t1 2 0;", "k7;", "a;"};
     private static Edge edge;
 
-    private TextEdges() {
+    private TheTextEdges() {
     }
 
     static void run(Edge given) {
