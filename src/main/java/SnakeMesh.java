@@ -33,7 +33,7 @@ public final class SnakeMesh {
     private final History history = new History();
     private final Grid grid = new Grid();
     private final Ways ways = new Ways();
-    private final Traffic traffic = new Traffic(ways);
+    private final Traffic traffic = new Traffic();
     private final Text text = new Text();
     private int refusedBad, refusedNo, refusedFull;
 
@@ -315,8 +315,8 @@ public final class SnakeMesh {
         if (n < 1 || n > MOST_STEPS) {
             return BAD;
         }
-        traffic.enter(now);
-        traffic.run(now, n);
+        traffic.enter(ways, now);
+        traffic.run(ways, now, n);
         return ways.undone(now, NONE);
     }
 
@@ -435,12 +435,12 @@ public final class SnakeMesh {
     /** Runs a copy ahead, so that nothing of the state itself becomes other. */
     private int stepsUntilDone(int i) {
         ahead.copyFrom(now);
-        traffic.enter(ahead);
+        traffic.enter(ways, ahead);
         for (int taken = 0; taken <= MOST_AHEAD; taken++) {
             if (ways.undone(ahead, i) == 0) {
                 return taken;
             }
-            if (!traffic.stepOnce(ahead)) {
+            if (!traffic.stepOnce(ways, ahead)) {
                 return NONE;
             }
         }
@@ -540,11 +540,13 @@ public final class SnakeMesh {
         }
 
         boolean isDown(int channel) {
-            return (down[channel >> 2] >> (channel & 3) & 1) != 0;
+            return channel >= 0 && channel < MOST_CHANNELS && (down[channel >> 2] >> (channel & 3) & 1) != 0;
         }
 
         void turn(int channel) {
-            down[channel >> 2] ^= 1 << (channel & 3);
+            if (channel >= 0 && channel < MOST_CHANNELS) {
+                down[channel >> 2] ^= 1 << (channel & 3);
+            }
         }
 
         int channelsDown() {
@@ -645,11 +647,11 @@ public final class SnakeMesh {
         }
 
         int xOf(int label) {
-            return xs[label];
+            return hasLabel(label) ? xs[label] : NONE;
         }
 
         int yOf(int label) {
-            return ys[label];
+            return hasLabel(label) ? ys[label] : NONE;
         }
 
         int tell(int label) {
@@ -714,7 +716,7 @@ public final class SnakeMesh {
             int by = state.rises(worm) ? 1 : -1;
             lengths[worm] = 0;
             places[worm][0] = state.sourceOf(worm);
-            for (int label = state.sourceOf(worm) + by; grid.hasLabel(label); label += by) {
+            for (int label = state.sourceOf(worm) + by; label >= 0 && label < MOST_PLACES; label += by) {
                 if ((goals >> label & 1L) != 0) {
                     layTo(grid, worm, label);
                 }
@@ -835,46 +837,41 @@ public final class SnakeMesh {
 
     /** Takes the steps of a state; keeps a table of what is held in it, to look that up at once. */
     private static final class Traffic {
-        private final Ways ways;
         private final boolean[] taken = new boolean[MOST_CHANNELS];
 
-        Traffic(Ways itsWays) {
-            ways = itsWays;
-        }
-
         /** To be called ahead of a state's first step: the table may still be another state's. */
-        void enter(State state) {
+        void enter(Ways ways, State state) {
             for (int channel = 0; channel < MOST_CHANNELS; channel++) {
                 taken[channel] = false;
             }
             for (int worm = 0; worm < state.worms(); worm++) {
                 for (int k = ways.tailOf(state, worm); k < ways.headOf(state, worm); k++) {
-                    taken[ways.channelOf(worm, k)] = true;
+                    mark(ways.channelOf(worm, k), true);
                 }
             }
         }
 
-        void run(State state, int n) {
+        void run(Ways ways, State state, int n) {
             for (int left = n - 1; left >= 0; left--) {
-                if (!stepOnce(state)) {
+                if (!stepOnce(ways, state)) {
                     // Where no worm moves, each later step is like this one.
-                    waitFor(state, left);
+                    waitFor(ways, state, left);
                     return;
                 }
             }
         }
 
         /** Whether a worm moved. */
-        boolean stepOnce(State state) {
+        boolean stepOnce(Ways ways, State state) {
             boolean moved = false;
             for (int worm = 0; worm < state.worms(); worm++) {
                 if (ways.isDone(state, worm)) {
                     continue;
                 }
-                if (isStopped(state, worm)) {
+                if (isStopped(ways, state, worm)) {
                     state.waited[worm]++;
                 } else {
-                    moveOn(state, worm);
+                    moveOn(ways, state, worm);
                     moved = true;
                 }
             }
@@ -882,34 +879,44 @@ public final class SnakeMesh {
             return moved;
         }
 
-        private boolean isStopped(State state, int worm) {
+        private boolean isStopped(Ways ways, State state, int worm) {
             int m = state.moves[worm];
             if (m >= ways.channelsOf(worm)) {
                 return false;
             }
             // A way has no channel twice, so one that is taken here is another worm's.
             int channel = ways.channelOf(worm, m);
-            return state.isDown(channel) || taken[channel];
+            return state.isDown(channel) || isTaken(channel);
         }
 
-        private void moveOn(State state, int worm) {
+        private void moveOn(Ways ways, State state, int worm) {
             int m = state.moves[worm];
             int left = m - state.lengthOf(worm);
             if (m < ways.channelsOf(worm)) {
-                taken[ways.channelOf(worm, m)] = true;
+                mark(ways.channelOf(worm, m), true);
             }
             if (left >= 0 && left < ways.channelsOf(worm)) {
-                taken[ways.channelOf(worm, left)] = false;
+                mark(ways.channelOf(worm, left), false);
             }
             state.moves[worm] = m + 1;
         }
 
-        private void waitFor(State state, int n) {
+        private void waitFor(Ways ways, State state, int n) {
             state.stepped += n;
             for (int worm = 0; worm < state.worms(); worm++) {
                 if (!ways.isDone(state, worm)) {
                     state.waited[worm] += n;
                 }
+            }
+        }
+
+        private boolean isTaken(int channel) {
+            return channel >= 0 && channel < MOST_CHANNELS && taken[channel];
+        }
+
+        private void mark(int channel, boolean asTaken) {
+            if (channel >= 0 && channel < MOST_CHANNELS) {
+                taken[channel] = asTaken;
             }
         }
     }
