@@ -8,81 +8,107 @@ import java.nio.file.Path;
 import java.util.Arrays;
 import java.util.Set;
 import java.util.TreeSet;
-import java.util.regex.Matcher;
-import java.util.regex.Pattern;
 
-/** The class's face is the document's, and the rules of LANGUAGE.md that a test can see are kept. */
+/** The class's face is the document's: its lines, in their order, each under the words ahead of it. */
 public final class FaceTest {
+    static final String CONSTANTS = "public static final int NONE = -1, BAD = -2, NO = -3, FULL = -4;";
+    static final String CONSTRUCTOR = "public SnakeMesh();";
+    static final String[] METHODS = {
+        "public int mesh(int w, int h);", "public int message(int x, int y, int l);", "public int goal(int i, int x, int y);",
+        "public int turns(int x, int y, int d);", "public int steps(int n);", "public int again();",
+        "public int label(int x, int y);", "public int place(int label);", "public int next(int a, int b, int x, int y);",
+        "public int far(int a, int b, int x, int y);", "public int holds(int x, int y, int d);",
+        "public int worm(int i, int s, int what);", "public int way(int i, int s, int k);", "public int goalAt(int i, int s, int k);",
+        "public int of(int i, int what);", "public int when(int i);", "public int count(int what);",
+        "public int type(int c);", "public int clear();", "public int does();", "public int back();", "public int told(int what);",
+        "public long digest();"};
+    /** The words ahead of calls, and the first call behind each of them. */
+    static final String[][] AHEAD = {
+        {"---- what is told in", "mesh"}, {"---- the mesh", "label"}, {"---- worms", "worm"}, {"---- texts", "type"}};
+
     private static final Due DUE = new Due("FaceTest");
-    private static final String[] METHODS = {
-        "int mesh 2", "int message 3", "int goal 3", "int turns 3", "int steps 1", "int again 0", "int label 2", "int place 1",
-        "int next 4", "int far 4", "int holds 3", "int worm 3", "int way 3", "int goalAt 3", "int of 2", "int when 1",
-        "int count 1", "int type 1", "int clear 0", "int does 0", "int back 0", "int told 1", "long digest 0"};
 
     public static void main(String[] args) throws IOException {
-        face();
-        names();
-        words(Files.readString(Path.of("src/main/java/SnakeMesh.java")));
+        theClass();
+        constants();
+        methods();
+        order(Files.readString(Path.of("src/main/java/SnakeMesh.java")));
         DUE.end();
     }
 
-    private static void face() {
+    private static void theClass() {
         Class<?> type = SnakeMesh.class;
         DUE.holds("public and final", Modifier.isPublic(type.getModifiers()) && Modifier.isFinal(type.getModifiers()));
+        DUE.holds("without a package", type.getPackageName().isEmpty());
+        DUE.holds("it extends nothing", type.getSuperclass() == Object.class && type.getInterfaces().length == 0);
         Constructor<?>[] constructors = type.getDeclaredConstructors();
         DUE.is("constructors", constructors.length, 1);
-        DUE.holds("a public one", Modifier.isPublic(constructors[0].getModifiers()) && constructors[0].getParameterCount() == 0);
-        Set<String> open = new TreeSet<>();
-        for (Method method : type.getDeclaredMethods()) {
-            if (!Modifier.isPrivate(method.getModifiers()) && !method.isSynthetic()) {
-                DUE.holds(method + " is public", Modifier.isPublic(method.getModifiers()));
-                open.add(method.getReturnType() + " " + method.getName() + " " + method.getParameterCount());
-            }
+        DUE.holds("a public one, without arguments",
+                Modifier.isPublic(constructors[0].getModifiers()) && constructors[0].getParameterCount() == 0);
+        for (Class<?> inside : type.getDeclaredClasses()) {
+            int m = inside.getModifiers();
+            DUE.holds(inside + " is static and not public", Modifier.isStatic(m) && !Modifier.isPublic(m) && !Modifier.isProtected(m));
         }
-        DUE.holds("methods " + open, open.equals(new TreeSet<>(Arrays.asList(METHODS))));
-        Set<String> constants = new TreeSet<>();
-        for (Field field : type.getDeclaredFields()) {
+    }
+
+    private static void constants() {
+        Set<String> open = new TreeSet<>();
+        for (Field field : SnakeMesh.class.getDeclaredFields()) {
             int m = field.getModifiers();
             DUE.holds(field + ", if static, is final", !Modifier.isStatic(m) || Modifier.isFinal(m));
             if (!Modifier.isPrivate(m)) {
-                constants.add(field.getName());
+                open.add(Modifier.toString(m) + " " + field.getType() + " " + field.getName());
             }
         }
-        DUE.holds("constants " + constants, constants.equals(new TreeSet<>(Arrays.asList("NONE", "BAD", "NO", "FULL"))));
+        Set<String> want = new TreeSet<>();
+        for (String name : new String[] {"NONE", "BAD", "NO", "FULL"}) {
+            want.add("public static final int " + name);
+        }
+        DUE.holds("constants " + open, open.equals(want));
+        DUE.is("NONE", SnakeMesh.NONE, -1);
+        DUE.is("BAD", SnakeMesh.BAD, -2);
+        DUE.is("NO", SnakeMesh.NO, -3);
+        DUE.is("FULL", SnakeMesh.FULL, -4);
     }
 
-    private static void names() {
+    private static void methods() {
         Set<String> open = new TreeSet<>();
-        for (String method : METHODS) {
-            open.add(method.split(" ")[1]);
-        }
         for (Method method : SnakeMesh.class.getDeclaredMethods()) {
-            DUE.holds(method + " has a name of its own",
-                    Modifier.isPublic(method.getModifiers()) || !open.contains(method.getName()));
-        }
-        DUE.holds("at most twelve classes", SnakeMesh.class.getDeclaredClasses().length < 12);
-        for (Class<?> inside : SnakeMesh.class.getDeclaredClasses()) {
-            DUE.holds(inside + " is static", Modifier.isStatic(inside.getModifiers()));
-            DUE.holds(inside + " has few fields", inside.getDeclaredFields().length <= 20);
-            for (Method method : inside.getDeclaredMethods()) {
-                DUE.holds(method + " has a name of its own", !open.contains(method.getName()));
-                DUE.holds(method + " takes seven at most", method.getParameterCount() <= 7);
+            if (!Modifier.isPrivate(method.getModifiers()) && !method.isSynthetic()) {
+                String types = Arrays.toString(method.getParameterTypes()).replaceAll("[\\[\\]]", "");
+                open.add(Modifier.toString(method.getModifiers()) + " " + method.getReturnType() + " " + method.getName() + "(" + types + ");");
+                DUE.is(method + " tells of no exceptions", method.getExceptionTypes().length, 0);
             }
+        }
+        Set<String> want = new TreeSet<>();
+        for (String line : METHODS) {
+            want.add(line.replaceAll("int \\w+(?=[,)])", "int"));
+        }
+        DUE.holds("methods " + open + ", due are " + want, open.equals(want));
+    }
+
+    static String nameOf(String line) {
+        return line.replaceAll("^public \\w+ (\\w+)\\(.*", "$1");
+    }
+
+    /** The lines of the document stand in the source one behind the other, with the names of their numbers. */
+    private static void order(String source) {
+        int at = source.indexOf(CONSTANTS);
+        DUE.holds("the constants' line", at >= 0);
+        at = follows(source, at, CONSTRUCTOR.replace(";", " {"));
+        for (String line : METHODS) {
+            for (String[] ahead : AHEAD) {
+                if (ahead[1].equals(nameOf(line))) {
+                    at = follows(source, at, "// " + ahead[0] + "\n");
+                }
+            }
+            at = follows(source, at, line.replace(";", " {"));
         }
     }
 
-    private static void words(String source) {
-        String code = source.replaceAll("(?s)/\\*.*?\\*/", " ").replaceAll("//[^\n]*", " ");
-        String ruledOut = "throw|throws|try|catch|finally|synchronized|assert|package|Object|System\\.(?!arraycopy)\\w+|"
-                + "Math\\.\\w+Exact|Random|Thread";
-        Matcher found = Pattern.compile("\\b(?:" + ruledOut + ")\\b|->|::").matcher(code);
-        String word = found.find() ? found.group() : "";
-        DUE.holds("nothing that is ruled out, but '" + word + "'", word.isEmpty());
-        Matcher imports = Pattern.compile("import ([\\w.*]+);").matcher(code);
-        while (imports.find()) {
-            DUE.holds("import " + imports.group(1), Set.of("java.util.Arrays", "java.util.ArrayList", "java.util.List")
-                    .contains(imports.group(1)));
-        }
-        DUE.holds("no sign above 127", source.chars().allMatch(c -> c < 128));
+    private static int follows(String source, int from, String line) {
+        int at = source.indexOf(line, Math.max(from, 0));
+        DUE.holds("in its order: " + line, at >= 0);
+        return Math.max(at, from);
     }
 }
